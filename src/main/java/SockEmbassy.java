@@ -1,6 +1,11 @@
 import java.util.NoSuchElementException;
 
-/** An office that decides in which drawers socks may live. README.md tells how it is built. */
+/**
+ * An office that decides in which drawers socks may live.
+ *
+ * What every public call does, returns and throws stands in the document, shared/DOC.md; README.md tells how the
+ * classes inside share the work.
+ */
 public final class SockEmbassy {
     public static final int SOCK_LIMIT = 1;
     public static final int NOT_AWAY = 2;
@@ -84,42 +89,35 @@ public final class SockEmbassy {
         return office.add(colour, size);
     }
 
-    /** Returns the number of socks. */
     public int sockCount() {
         return office.count;
     }
 
-    /** Returns the colour of a sock. */
     public char colourOf(int sock) throws IndexOutOfBoundsException {
         requireSock(sock);
         return office.colourAt(sock);
     }
 
-    /** Returns the size of a sock. */
     public int sizeOf(int sock) throws IndexOutOfBoundsException {
         requireSock(sock);
         return office.size[sock];
     }
 
-    /** Tells whether a sock is away. */
     public boolean isAway(int sock) throws IndexOutOfBoundsException {
         requireSock(sock);
         return office.state[sock] == AWAY;
     }
 
-    /** Tells whether a sock is pending. */
     public boolean isPending(int sock) throws IndexOutOfBoundsException {
         requireSock(sock);
         return office.state[sock] == PENDING;
     }
 
-    /** Tells whether a sock is refused. */
     public boolean isRefused(int sock) throws IndexOutOfBoundsException {
         requireSock(sock);
         return office.state[sock] == REFUSED;
     }
 
-    /** Tells whether a sock is a resident of a drawer. */
     public boolean isResident(int sock) throws IndexOutOfBoundsException {
         requireSock(sock);
         return office.state[sock] == RESIDENT;
@@ -132,28 +130,24 @@ public final class SockEmbassy {
         return office.drawer[sock];
     }
 
-    /** Returns the level of the application of a sock. */
     public int levelOf(int sock) throws IndexOutOfBoundsException, NoSuchElementException {
         requireSock(sock);
         requireElement(office.hasApplication(sock));
         return office.level[sock];
     }
 
-    /** Returns the last day of the visa of a resident. */
     public int visaDay(int sock) throws IndexOutOfBoundsException, NoSuchElementException {
         requireSock(sock);
         requireElement(office.state[sock] == RESIDENT);
         return office.lastDay[sock];
     }
 
-    /** Returns the partner of a paired sock. */
     public int partnerOf(int sock) throws IndexOutOfBoundsException, NoSuchElementException {
         requireSock(sock);
         requireElement(office.partner[sock] != NONE);
         return office.partner[sock];
     }
 
-    /** Tells whether two socks match. */
     public boolean matches(int first, int second) throws IndexOutOfBoundsException {
         requireSock(first);
         requireSock(second);
@@ -204,7 +198,6 @@ public final class SockEmbassy {
         return sock;
     }
 
-    /** Returns the number of pending socks that have applied to a drawer. */
     public int pendingCount(int drawer) throws IndexOutOfBoundsException {
         requireDrawer(drawer);
         return office.countOf(PENDING, drawer);
@@ -249,7 +242,6 @@ public final class SockEmbassy {
         return office.part(sock);
     }
 
-    /** Returns the number of pairs in a drawer. */
     public int pairCount(int drawer) throws IndexOutOfBoundsException {
         requireDrawer(drawer);
         return office.pairsIn(drawer);
@@ -305,7 +297,6 @@ public final class SockEmbassy {
         return office.cancel(first, second);
     }
 
-    /** Returns the clause of the treaty between two drawers. */
     public char clauseOf(int first, int second) throws IndexOutOfBoundsException, NoSuchElementException {
         requireDrawer(first);
         requireDrawer(second);
@@ -313,13 +304,11 @@ public final class SockEmbassy {
         return (char) office.clauseBetween(first, second);
     }
 
-    /** Returns the quota of a drawer. */
     public int quotaOf(int drawer) throws IndexOutOfBoundsException {
         requireDrawer(drawer);
         return office.quota[drawer];
     }
 
-    /** Returns the number of residents of a drawer. */
     public int residents(int drawer) throws IndexOutOfBoundsException {
         requireDrawer(drawer);
         return office.countOf(RESIDENT, drawer);
@@ -333,10 +322,8 @@ public final class SockEmbassy {
         return sock;
     }
 
-    /** Tells whether a colour is banned from a drawer. */
     public boolean isBanned(int drawer, char colour) throws IndexOutOfBoundsException, IllegalArgumentException {
-        requireDrawer(drawer);
-        requireArgument(COLOURS.indexOf(colour) >= 0);
+        require(checks.banning(drawer, colour));
         return office.bans(drawer, colour);
     }
 
@@ -356,7 +343,6 @@ public final class SockEmbassy {
         return office.advance(days);
     }
 
-    /** Returns the present day. */
     public int day() {
         return office.today;
     }
@@ -377,12 +363,10 @@ public final class SockEmbassy {
         return office.refused;
     }
 
-    /** Returns the number of residents that have been expelled so far. */
     public int expelledCount() {
         return office.expelled;
     }
 
-    /** Returns the number of admissions minus the number of expulsions so far. */
     public int admissionBalance() {
         return office.admitted - office.expelled;
     }
@@ -394,13 +378,11 @@ public final class SockEmbassy {
         return drawer;
     }
 
-    /** Returns the mean size of all socks. */
     public double meanSize() throws ArithmeticException {
         requireSocks();
         return (double) office.sizeSum() / (double) office.count;
     }
 
-    /** Returns the share of residents among all socks. */
     public float residentShare() throws ArithmeticException {
         requireSocks();
         return (float) office.residentSum() / (float) office.count;
@@ -428,7 +410,6 @@ public final class SockEmbassy {
         return output.length();
     }
 
-    /** Returns a character of the output. */
     public char outputAt(int index) throws IndexOutOfBoundsException {
         requireIndex(index >= 0 && index < output.length());
         return output.charAt(index);
@@ -463,7 +444,6 @@ public final class SockEmbassy {
         return done;
     }
 
-    /** Returns the offset of the latest syntax error. */
     public int syntaxErrorOffset() throws NoSuchElementException {
         requireElement(latestOffset != NONE);
         return latestOffset;
@@ -471,13 +451,11 @@ public final class SockEmbassy {
 
     // ---- rejections and history
 
-    /** Returns the reason of the latest rejection. */
     public int rejectionReason() throws NoSuchElementException {
         requireElement(latestReason != FINE);
         return latestReason;
     }
 
-    /** Returns the detail of the latest rejection. */
     public int rejectionDetail() throws NoSuchElementException {
         requireElement(latestReason != FINE);
         return latestDetail;

@@ -16,6 +16,7 @@ final class DayTests {
         means();
         shares();
         consistency();
+        fullHouse();
     }
 
     private static void passing() {
@@ -140,5 +141,42 @@ final class DayTests {
         Expect.is(true, Make.office(Make.STATES).isConsistent());
         Expect.is(true, Make.office(Make.STATES + " y20 k3 y1").isConsistent());
         Expect.is(true, Make.office(Make.STATES + " k4 l3 t30s m4>0").isConsistent());
+    }
+
+    /** All 14 socks at once, more than one drawer can hold. */
+    private static void fullHouse() {
+        SockEmbassy office = Make.office("nw1 ".repeat(14) + "q2=9 q4=9");
+        for (int sock = 0; sock < 14; sock++) {
+            Expect.promise(15);
+            Expect.is(sock + 1, office.apply(sock, 2));
+        }
+        Expect.promise(20);
+        Expect.is(13, office.queueAt(2, 13));
+        Expect.throwing(NoSuchElementException.class, office, x -> x.queueAt(2, 14));
+        Expect.promise(19);
+        Expect.is(9, office.wouldAdmit(2));
+        Expect.promise(18);
+        Expect.is(9, office.decide(2));
+        Make.run(office, "w9 w10 w11 w12 w13 a9>4 a10>4 a11>4 a12>4 a13>4");
+        Expect.is(5, office.decide(4));
+        Expect.promise(38);
+        Expect.is(8, office.residentAt(2, 8));
+        Expect.is(13, office.residentAt(4, 4));
+        Expect.throwing(NoSuchElementException.class, office, x -> x.residentAt(2, 9));
+        Expect.promise(28);
+        Expect.is(4, office.possiblePairs(2));
+        Expect.is(2, office.possiblePairs(4));
+        Expect.promise(29);
+        Expect.is(4, office.possiblePairsByColours(2));
+        Expect.promise(51);
+        Expect.is(true, office.isConsistent());
+        Expect.promise(50);
+        Expect.is(1.0f, office.residentShare());
+        Expect.promise(49);
+        Expect.is(1.0, office.meanSize());
+        Expect.promise(43);
+        Expect.is(14, office.wouldExpel(11));
+        Expect.promise(41);
+        Expect.is(14, office.passDays(11));
     }
 }

@@ -11,9 +11,11 @@ final class HistoryTests {
         causes();
         undoingEveryChange();
         undoing();
+        daysOfApplications();
         noChanges();
         whatUndoLeaves();
         snapshots();
+        snapshotsOfSocks();
         whatTheSnapshotLeaves();
     }
 
@@ -121,6 +123,23 @@ final class HistoryTests {
         }
     }
 
+    /** The days on which applications were made come back too: they order the queue. */
+    private static void daysOfApplications() {
+        String setup = "nr1 nr1 a1>0 y1 a0>0";
+        SockEmbassy office = Make.office(setup + " y1 w1 a1>0");
+        Expect.is(0, office.queueAt(0, 0));
+        office.undo();
+        Expect.is(6, office.undo());
+        Expect.is(1, office.queueAt(0, 0));
+        Expect.promise(62);
+        SockEmbassy saved = Make.office(setup);
+        saved.saveSnapshot();
+        Make.run(saved, "y1 w1 a1>0");
+        saved.restoreSnapshot();
+        Expect.is(1, saved.queueAt(0, 0));
+        Expect.promise(60);
+    }
+
     private static void noChanges() {
         SockEmbassy office = Make.office(Make.STATES + " y1 y1");
         office.writeSock(3);
@@ -177,6 +196,17 @@ final class HistoryTests {
         Expect.promise(62);
         Expect.fails(IllegalStateException.class, Make.STATES, SockEmbassy::restoreSnapshot);
         Expect.fails(IllegalStateException.class, "", SockEmbassy::restoreSnapshot);
+    }
+
+    /** A snapshot has the colours and sizes of its socks, also if others have had their indices since. */
+    private static void snapshotsOfSocks() {
+        SockEmbassy office = Make.office("nr1");
+        office.saveSnapshot();
+        office.undo();
+        office.addSock('g', 2);
+        office.restoreSnapshot();
+        Expect.is('r', office.colourOf(0));
+        Expect.is(1, office.sizeOf(0));
     }
 
     private static void whatTheSnapshotLeaves() {

@@ -23,6 +23,7 @@ final class PairTests {
         Expect.is(0, office.partnerOf(3));
         Expect.is(3, office.partnerOf(0));
         Expect.is(2, office.pair(2, 4));
+        Expect.is(1, Make.office("nr1 nr1 nr1 a0>0 a1>4 a2>4 d0 d4").pair(1, 2));
         Expect.noSock((x, sock) -> x.pair(sock, 5));
         Expect.noSock((x, sock) -> x.pair(5, sock));
         for (int sock : new int[] {0, 3, 5}) {
@@ -43,6 +44,8 @@ final class PairTests {
         Expect.rejects(SockEmbassy.PAIRED, 0, HOME + " j0&1", x -> x.pair(3, 1));
         Expect.rejects(SockEmbassy.PAIRED, 1, HOME + " j0&1 j3&4", x -> x.pair(0, 3));
         Expect.rejects(SockEmbassy.PAIRED, 1, HOME + " j0&1", x -> x.pair(0, 5));
+        Expect.rejects(SockEmbassy.PAIRED, 4, HOME + " j0&1 j3&4", x -> x.pair(3, 2));
+        Expect.rejects(SockEmbassy.PAIRED, 4, HOME + " j0&1 j3&4", x -> x.pair(3, 1));
         Expect.rejects(SockEmbassy.PAIRED, 1, HOME + " j0&1", x -> x.pair(0, 1));
         Expect.rejects(SockEmbassy.NO_MATCH, 6, HOME, x -> x.pair(0, 5));
         Expect.rejects(SockEmbassy.NO_MATCH, 5, HOME, x -> x.pair(5, 0));

@@ -7,7 +7,7 @@ public final class Tests {
     private Tests() {
     }
 
-    public static void main(String[] arguments) throws IOException {
+    public static void main(String[] arguments) throws IOException, IllegalAccessException {
         String source = Files.readString(Path.of(arguments[0]));
         String document = Files.readString(Path.of(arguments[1]));
         SockTests.run();
@@ -18,6 +18,9 @@ public final class Tests {
         OutputTests.run();
         CommandTests.run();
         HistoryTests.run();
+        FaceTests.run(document);
+        LanguageTests.run(source);
+        RandomRuns.run();
         System.out.println("expectations: " + Expect.passed + " passed, " + Expect.failed + " failed");
         if (Expect.failed > 0 || Expect.passed == 0) {
             System.exit(1);
