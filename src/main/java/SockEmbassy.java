@@ -65,9 +65,9 @@ public final class SockEmbassy {
     private static final int BAD_ARGUMENT = -2;
     private static final int MISSING = -3;
 
-    private final Office office = new Office();
+    private final Checks checks = new Checks();
+    private final Office office = checks.office;
     private final Office before = new Office();
-    private final Checks checks = new Checks(office);
     private final History history = new History();
     private final Commands commands = new Commands();
     private final StringBuilder output = new StringBuilder();
@@ -1095,13 +1095,9 @@ public final class SockEmbassy {
 
     /** Tells the fault of a change that is asked for. Nothing is changed but the detail. */
     private static final class Checks {
-        private final Office office;
+        final Office office = new Office();
         /** The detail of the latest fault that is a reason. */
         int detail;
-
-        Checks(Office office) {
-            this.office = office;
-        }
 
         private int because(int reason, int itsDetail) {
             detail = itsDetail;
@@ -1298,16 +1294,18 @@ public final class SockEmbassy {
         }
 
         private int readAll() {
-            for (at = 0; at <= length; at++) {
+            at = 0;
+            for (int round = 0; round <= COMMANDS_MOST; round++) {
                 if (!readCommand()) {
                     return at;
                 }
                 if (at >= length) {
                     return NONE;
                 }
-                if (text[at] != ';') {
+                if (here() != ';') {
                     return at;
                 }
+                at++;
             }
             return at;
         }
