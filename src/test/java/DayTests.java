@@ -1,8 +1,11 @@
-import java.util.NoSuchElementException;
-
-/** Promises 41 to 51: days and totals. */
+/** Promises 41 to 47: days and what is counted. */
 final class DayTests {
-    private static final int[] NO_DAYS = {Integer.MIN_VALUE, -1, 0, 21, Integer.MAX_VALUE};
+    private static final int[] NO_DAYS = {Integer.MIN_VALUE, -20, -1, 0, 21, 22, Integer.MAX_VALUE};
+    // Visas to day 10, to day 14, and two to day 10 that are paired.
+    private static final String VISAS = "nr1 nr2 nr3 nr3 a0>0 a1>1 a2>1 a3>1 d0 d1 r1+4 j2&3";
+    // All 14 socks are residents, of three drawers.
+    private static final String HOUSED = Expect.FOURTEEN + "q0=5 q1=5 q2=5 a0>0 a1>0 a2>0 a3>0 a4>0 a5>1 a6>1 a7>1 a8>1"
+            + " a9>1 a10>2 a11>2 a12>2 a13>2 d0 d1 d2";
 
     private DayTests() {
     }
@@ -10,173 +13,147 @@ final class DayTests {
     static void run() {
         passing();
         expelling();
+        today();
         forecast();
-        totals();
-        ranking();
-        means();
-        shares();
-        consistency();
-        fullHouse();
+        admitted();
+        refused();
+        expelled();
+        balance();
     }
 
     private static void passing() {
-        SockEmbassy office = new SockEmbassy();
         Expect.promise(41);
-        Expect.is(0, office.passDays(1));
-        Expect.is(0, office.passDays(20));
-        Expect.promise(42);
-        Expect.is(21, office.day());
+        Expect.sentence("Lets days pass.");
+        Expect.answers(1, "y1", SockEmbassy::day);
+        Expect.answers(false, Make.STATES + " y11", x -> x.isResident(5));
+        Expect.answers(true, Make.STATES + " y11", x -> x.isPending(1));
+        Expect.answers(true, Make.STATES + " y11", x -> x.isRefused(2));
+        Expect.sentence("- `days`: the number of days, 1 to 20");
+        for (int days = 1; days <= 20; days++) {
+            int some = days;
+            Expect.answers(0, "", x -> x.passDays(some));
+            Expect.answers(days, "y" + days, SockEmbassy::day);
+        }
+        Expect.sentence("Throws `IllegalArgumentException` if days is out of range");
         for (int days : NO_DAYS) {
-            Expect.promise(41);
-            Expect.fails(IllegalArgumentException.class, Make.STATES, x -> x.passDays(days));
-            Expect.promise(43);
-            Expect.fails(IllegalArgumentException.class, Make.STATES, x -> x.wouldExpel(days));
+            Expect.fails(IllegalArgumentException.class, "", x -> x.passDays(days));
+            Expect.fails(IllegalArgumentException.class, VISAS + " y10", x -> x.passDays(days));
         }
     }
 
     private static void expelling() {
         Expect.promise(41);
-        SockEmbassy office = Make.office(Make.STATES);
-        Expect.is(0, office.passDays(10));
-        Expect.is(true, office.isResident(5));
-        Expect.is(1, office.passDays(1));
-        Expect.is(true, office.isAway(5));
-        Expect.is(true, office.isResident(3));
-        Expect.is(true, office.isPending(1));
-        Expect.is(true, office.isRefused(2));
-        Expect.is(0, office.passDays(20));
-        // After a separation, both are expelled when the next day passes.
-        office.separate(4);
-        Expect.is(true, office.isResident(3));
-        Expect.is(2, office.passDays(1));
-        Expect.is(true, office.isAway(3));
-        Expect.is(true, office.isAway(4));
+        Expect.sentence("Returns the number of residents that are expelled.");
+        Expect.answers(0, "", x -> x.passDays(20));
+        Expect.answers(0, VISAS, x -> x.passDays(10));
+        Expect.answers(1, VISAS, x -> x.passDays(11));
+        Expect.answers(1, VISAS + " y10", x -> x.passDays(1));
+        Expect.answers(0, VISAS + " y11", x -> x.passDays(3));
+        Expect.answers(1, VISAS + " y11", x -> x.passDays(4));
         // Visas of several days end within one call.
-        Expect.is(3, Make.office("nr1 nr2 nr3 a0>0 a1>1 a2>2 d0 d1 d2 r1+4 r2+9").passDays(20));
-        Expect.is(2, Make.office("nr1 nr2 nr3 a0>0 a1>1 a2>2 d0 d1 d2 r1+4 r2+9").passDays(19));
+        Expect.answers(2, VISAS, x -> x.passDays(20));
+        Expect.answers(0, HOUSED, x -> x.passDays(10));
+        Expect.answers(14, HOUSED, x -> x.passDays(11));
+    }
+
+    private static void today() {
+        Expect.promise(42);
+        Expect.sentence("Returns the present day.", "Returns the number of days that have passed so far.");
+        Expect.answers(0, "", SockEmbassy::day);
+        Expect.answers(1, "y1", SockEmbassy::day);
+        Expect.answers(21, "y1 y20", SockEmbassy::day);
+        Expect.answers(1, "y1 y20 U", SockEmbassy::day);
+        Expect.answers(1, "y1 S y20 R", SockEmbassy::day);
+        Expect.answers(1, "y1 !y0 !y21", SockEmbassy::day);
+        Expect.answers(1, Make.STATES + " y1 d2 l5", SockEmbassy::day);
     }
 
     private static void forecast() {
         Expect.promise(43);
-        String visas = "nr1 nr2 nr3 nr3 a0>0 a1>1 a2>1 a3>1 d0 d1 r1+4 j2&3";
-        SockEmbassy office = Make.office(visas);
-        Expect.is(0, office.wouldExpel(10));
-        Expect.is(1, office.wouldExpel(11));
-        Expect.is(1, office.wouldExpel(14));
-        Expect.is(2, office.wouldExpel(15));
-        Expect.is(2, office.wouldExpel(20));
-        Expect.is(0, office.day());
-        Expect.is(4, Make.office(visas + " k2").wouldExpel(20));
-        Expect.is(2, Make.office(visas + " y20 k2").wouldExpel(1));
-        Expect.is(1, Make.office(visas + " y14").wouldExpel(1));
-        Expect.is(0, new SockEmbassy().wouldExpel(1));
+        Expect.sentence("Returns how many residents would be expelled if some days passed now.",
+                "Returns the number of residents.");
+        Expect.answers(0, "", x -> x.wouldExpel(20));
+        Expect.answers(0, VISAS, x -> x.wouldExpel(10));
+        Expect.answers(1, VISAS, x -> x.wouldExpel(11));
+        Expect.answers(1, VISAS, x -> x.wouldExpel(14));
+        Expect.answers(2, VISAS, x -> x.wouldExpel(15));
+        Expect.answers(2, VISAS, x -> x.wouldExpel(20));
+        Expect.answers(4, VISAS + " k2", x -> x.wouldExpel(20));
+        Expect.answers(2, VISAS + " y20 k2", x -> x.wouldExpel(1));
+        Expect.answers(0, VISAS + " y20", x -> x.wouldExpel(1));
+        Expect.answers(1, VISAS + " y14", x -> x.wouldExpel(1));
+        Expect.answers(0, HOUSED, x -> x.wouldExpel(10));
+        Expect.answers(14, HOUSED, x -> x.wouldExpel(11));
+        Expect.onlyTells(VISAS, x -> x.wouldExpel(20));
+        Expect.sentence("- `days`: the number of days, 1 to 20");
         for (int days = 1; days <= 20; days++) {
-            Expect.is(office.wouldExpel(days), Make.office(visas).passDays(days));
+            int some = days;
+            Expect.is(Make.office(VISAS).passDays(days), Make.office(VISAS).wouldExpel(days));
+            Expect.answers(0, "", x -> x.wouldExpel(some));
+        }
+        Expect.sentence("Throws `IllegalArgumentException` if days is out of range");
+        for (int days : NO_DAYS) {
+            Expect.fails(IllegalArgumentException.class, "", x -> x.wouldExpel(days));
+            Expect.fails(IllegalArgumentException.class, VISAS, x -> x.wouldExpel(days));
         }
     }
 
-    private static void totals() {
-        SockEmbassy office = Make.office(Make.STATES + " p2 d1 y11 a5>3 q3=0 d3 q3=9 p5 d3");
+    private static void admitted() {
         Expect.promise(44);
-        Expect.is(4, office.admittedCount());
-        Expect.is(0, new SockEmbassy().admittedCount());
+        Expect.sentence("Returns the number of socks that have become residents by decisions so far.",
+                "Returns the number of times.");
+        Expect.answers(0, "", SockEmbassy::admittedCount);
+        Expect.answers(3, Make.STATES, SockEmbassy::admittedCount);
+        Expect.answers(14, HOUSED, SockEmbassy::admittedCount);
+        // Each time counts; moves and the end of a residence do not.
+        Expect.answers(3, Make.STATES + " t30o m5>0 l5", SockEmbassy::admittedCount);
+        Expect.answers(4, Make.STATES + " l5 a5>3 d3", SockEmbassy::admittedCount);
+        Expect.answers(4, Make.STATES + " y11 a5>3 d3", SockEmbassy::admittedCount);
+        Expect.answers(3, Make.STATES + " d2 U", SockEmbassy::admittedCount);
+        Expect.answers(4, Make.STATES + " q1=1 p2 d1", SockEmbassy::admittedCount);
+        Expect.onlyTells(Make.STATES, x -> x.wouldAdmit(2));
+    }
+
+    private static void refused() {
         Expect.promise(45);
-        Expect.is(3, office.refusedCount());
-        Expect.is(0, new SockEmbassy().refusedCount());
+        Expect.sentence("Returns the number of applications that have been refused so far.",
+                "Returns the number of times.");
+        Expect.answers(0, "", SockEmbassy::refusedCount);
+        Expect.answers(1, Make.STATES, SockEmbassy::refusedCount);
+        Expect.answers(1, Make.STATES + " p2", SockEmbassy::refusedCount);
+        Expect.answers(2, Make.STATES + " p2 d1", SockEmbassy::refusedCount);
+        Expect.answers(3, Make.STATES + " p2 d1 p2 d1", SockEmbassy::refusedCount);
+        Expect.answers(1, Make.STATES + " w2 w1 d1 d2", SockEmbassy::refusedCount);
+        Expect.answers(1, Make.STATES + " d1 d1", SockEmbassy::refusedCount);
+        Expect.answers(1, Make.STATES + " p2 d1 U", SockEmbassy::refusedCount);
+        Expect.answers(1, Make.STATES + " !a3>0 !l3", SockEmbassy::refusedCount);
+    }
+
+    private static void expelled() {
         Expect.promise(46);
-        Expect.is(1, office.expelledCount());
-        Expect.is(0, new SockEmbassy().expelledCount());
+        Expect.sentence("Returns the number of residents that have been expelled so far.",
+                "Returns the number of times.");
+        Expect.answers(0, "", SockEmbassy::expelledCount);
+        Expect.answers(0, Make.STATES + " y10", SockEmbassy::expelledCount);
+        Expect.answers(1, Make.STATES + " y11", SockEmbassy::expelledCount);
+        Expect.answers(1, Make.STATES + " y20", SockEmbassy::expelledCount);
+        Expect.answers(3, Make.STATES + " y20 k3 y1", SockEmbassy::expelledCount);
+        Expect.answers(2, Make.STATES + " y11 a5>3 d3 y11", SockEmbassy::expelledCount);
+        Expect.answers(0, Make.STATES + " l5 w1 y20", SockEmbassy::expelledCount);
+        Expect.answers(0, Make.STATES + " y11 U", SockEmbassy::expelledCount);
+        Expect.answers(14, HOUSED + " y11", SockEmbassy::expelledCount);
+    }
+
+    private static void balance() {
         Expect.promise(47);
-        Expect.is(3, office.admissionBalance());
-        // Neither leaving nor moving nor withdrawing counts.
-        Make.run(office, "t30o m5>0 l5 w1 k3 y20");
-        Expect.is(1, office.admissionBalance());
-        Expect.promise(46);
-        Expect.is(3, office.expelledCount());
-        Expect.promise(44);
-        Expect.is(4, office.admittedCount());
-    }
-
-    private static void ranking() {
-        Expect.promise(48);
-        ranks(new SockEmbassy(), 0, 1, 2, 3, 4);
-        ranks(Make.office(Make.STATES), 3, 0, 1, 2, 4);
-        // Two residents in each of 0, 1 and 4, where 1 and 4 have a pair; one in 2; none in 3.
-        String six = "nr1 nr2 nr1 nr1 nr1 nr1 nr1 a0>0 a1>0 a2>1 a3>1 a4>4 a5>4 a6>2 d0 d1 d4 d2";
-        ranks(Make.office(six), 0, 1, 4, 2, 3);
-        ranks(Make.office(six + " j4&5"), 4, 0, 1, 2, 3);
-        ranks(Make.office(six + " j4&5 j2&3"), 1, 4, 0, 2, 3);
-        for (int position : new int[] {Integer.MIN_VALUE, -1, 5, Integer.MAX_VALUE}) {
-            Expect.fails(NoSuchElementException.class, Make.STATES, x -> x.drawerByResidents(position));
-        }
-    }
-
-    private static void ranks(SockEmbassy office, int... due) {
-        for (int position = 0; position < 5; position++) {
-            Expect.is(due[position], office.drawerByResidents(position));
-        }
-    }
-
-    private static void means() {
-        Expect.promise(49);
-        Expect.is(4.0, Make.office("nr4").meanSize());
-        Expect.is(16.0 / 3.0, Make.office("nr4 ng9 nw3").meanSize());
-        Expect.is(22.0 / 6.0, Make.office("nr1 nr2 nr3 nr4 nr9 nr3").meanSize());
-        Expect.fails(ArithmeticException.class, "", SockEmbassy::meanSize);
-        Expect.fails(ArithmeticException.class, "y1", SockEmbassy::meanSize);
-    }
-
-    private static void shares() {
-        Expect.promise(50);
-        Expect.is(0.0f, Make.office("nr4 a0>1").residentShare());
-        Expect.is(3.0f / 6.0f, Make.office(Make.STATES).residentShare());
-        Expect.is(2.0f / 3.0f, Make.office("nr4 nr4 nr4 a0>1 a2>0 d0 d1").residentShare());
-        Expect.is(1.0f, Make.office("nr4 a0>4 d4").residentShare());
-        Expect.fails(ArithmeticException.class, "", SockEmbassy::residentShare);
-    }
-
-    private static void consistency() {
-        Expect.promise(51);
-        Expect.is(true, new SockEmbassy().isConsistent());
-        Expect.is(true, Make.office(Make.STATES).isConsistent());
-        Expect.is(true, Make.office(Make.STATES + " y20 k3 y1").isConsistent());
-        Expect.is(true, Make.office(Make.STATES + " k4 l3 t30s m4>0").isConsistent());
-    }
-
-    /** All 14 socks at once, more than one drawer can hold. */
-    private static void fullHouse() {
-        SockEmbassy office = Make.office("nw1 ".repeat(14) + "q2=9 q4=9");
-        for (int sock = 0; sock < 14; sock++) {
-            Expect.promise(15);
-            Expect.is(sock + 1, office.apply(sock, 2));
-        }
-        Expect.promise(20);
-        Expect.is(13, office.queueAt(2, 13));
-        Expect.throwing(NoSuchElementException.class, office, x -> x.queueAt(2, 14));
-        Expect.promise(19);
-        Expect.is(9, office.wouldAdmit(2));
-        Expect.promise(18);
-        Expect.is(9, office.decide(2));
-        Make.run(office, "w9 w10 w11 w12 w13 a9>4 a10>4 a11>4 a12>4 a13>4");
-        Expect.is(5, office.decide(4));
-        Expect.promise(38);
-        Expect.is(8, office.residentAt(2, 8));
-        Expect.is(13, office.residentAt(4, 4));
-        Expect.throwing(NoSuchElementException.class, office, x -> x.residentAt(2, 9));
-        Expect.promise(28);
-        Expect.is(4, office.possiblePairs(2));
-        Expect.is(2, office.possiblePairs(4));
-        Expect.promise(29);
-        Expect.is(4, office.possiblePairsByColours(2));
-        Expect.promise(51);
-        Expect.is(true, office.isConsistent());
-        Expect.promise(50);
-        Expect.is(1.0f, office.residentShare());
-        Expect.promise(49);
-        Expect.is(1.0, office.meanSize());
-        Expect.promise(43);
-        Expect.is(14, office.wouldExpel(11));
-        Expect.promise(41);
-        Expect.is(14, office.passDays(11));
+        Expect.sentence("Returns the number of admissions minus the number of expulsions so far.",
+                "Returns the difference.");
+        Expect.answers(0, "", SockEmbassy::admissionBalance);
+        Expect.answers(3, Make.STATES, SockEmbassy::admissionBalance);
+        Expect.answers(2, Make.STATES + " y11", SockEmbassy::admissionBalance);
+        Expect.answers(0, Make.STATES + " y11 k3 y1", SockEmbassy::admissionBalance);
+        Expect.answers(3, Make.STATES + " l5", SockEmbassy::admissionBalance);
+        Expect.answers(3, Make.STATES + " y11 U", SockEmbassy::admissionBalance);
+        Expect.answers(0, HOUSED + " y11", SockEmbassy::admissionBalance);
     }
 }

@@ -4,13 +4,15 @@ import java.lang.reflect.Method;
 import java.lang.reflect.Modifier;
 import java.util.Set;
 import java.util.TreeSet;
+import java.util.regex.Matcher;
+import java.util.regex.Pattern;
 
 /** The class has the face that the document shows, and no other member that can be seen. */
 final class FaceTests {
     private FaceTests() {
     }
 
-    static void run(String document) throws IllegalAccessException {
+    static void run(String document, String source) throws IllegalAccessException {
         Expect.promise(0);
         Set<String> due = new TreeSet<>();
         int start = document.indexOf("public final class SockEmbassy {");
@@ -28,6 +30,35 @@ final class FaceTests {
             Expect.holds(Modifier.isPrivate(inside.getModifiers()), inside + " is not private");
         }
         names();
+        headings(source);
+    }
+
+    /** What stands ahead of each group of calls. */
+    private static void headings(String source) {
+        String[] parts = source.split("(?m)^ *// ---- ");
+        for (String sentence : Document.sentences("Ahead of the calls ")) {
+            Expect.term(sentence);
+            String[] halves = sentence.split(" the interface says: ---- ");
+            String heading = halves[1].replace(".", "");
+            StringBuilder due = new StringBuilder();
+            for (String name : halves[0].replaceAll("Ahead of the calls |[`,]", "").split(" ")) {
+                due.append(name).append(' ');
+            }
+            Expect.is(due.toString(), calls(parts, heading));
+        }
+    }
+
+    private static String calls(String[] parts, String heading) {
+        StringBuilder found = new StringBuilder();
+        for (String part : parts) {
+            if (part.startsWith(heading + "\n") && found.length() == 0) {
+                Matcher calls = Pattern.compile("(?m)^    public \\w+ (\\w+)\\(").matcher(part);
+                while (calls.find()) {
+                    found.append(calls.group(1)).append(' ');
+                }
+            }
+        }
+        return found.toString();
     }
 
     private static Set<String> members() throws IllegalAccessException {

@@ -1,227 +1,227 @@
 import java.util.NoSuchElementException;
+import java.util.function.Consumer;
 
 /** Promises 57 to 62: rejections, undo and the snapshot. */
 final class HistoryTests {
+    // Offices in which no call has been rejected, though calls have thrown and moves could not be made.
+    private static final String[] NO_REJECTION = {"", Make.STATES, "iy0 !x", "iy !x", "!nr0 !d5 !e01 !U !R"};
+    // A treaty and a sock more than Make.STATES, so that every change can be made.
+    private static final String SETUP = Make.STATES + " nw9 a6>3 q3=4 d3 t30s b4g";
+
     private HistoryTests() {
     }
 
     static void run() {
-        constants();
-        latestRejection();
+        latestReasons();
+        latestDetails();
         causes();
-        undoingEveryChange();
+        noCauses();
         undoing();
-        daysOfApplications();
-        noChanges();
-        whatUndoLeaves();
-        snapshots();
-        snapshotsOfSocks();
-        whatTheSnapshotLeaves();
+        undoingTheLatest();
+        changesLeft();
+        nothingToUndo();
+        saving();
+        restoring();
+        noUndoAfterwards();
+        noSnapshot();
     }
 
-    private static void constants() {
+    private static void latestReasons() {
         Expect.promise(57);
-        int[] constants = {SockEmbassy.SOCK_LIMIT, SockEmbassy.NOT_AWAY, SockEmbassy.NO_APPLICATION,
-            SockEmbassy.NOT_REFUSED, SockEmbassy.FINAL_LEVEL, SockEmbassy.NOT_RESIDENT, SockEmbassy.VISA_LIMIT,
-            SockEmbassy.PAIRED, SockEmbassy.NOT_PAIRED, SockEmbassy.OTHER_DRAWER, SockEmbassy.NO_MATCH,
-            SockEmbassy.NO_TREATY, SockEmbassy.CLAUSE, SockEmbassy.QUOTA, SockEmbassy.BANNED,
-            SockEmbassy.TREATY_EXISTS, SockEmbassy.COMMAND_REJECTED};
-        for (int i = 0; i < constants.length; i++) {
-            Expect.is(i + 1, constants[i]);
+        Expect.sentence("Returns the reason of the latest rejection.", "Returns the reason, one of the constants.");
+        Expect.answers(SockEmbassy.NOT_AWAY, Make.STATES + " !a3>0", SockEmbassy::rejectionReason);
+        Expect.answers(SockEmbassy.PAIRED, Make.STATES + " !a3>0 !l3", SockEmbassy::rejectionReason);
+        Expect.answers(SockEmbassy.NOT_AWAY, Make.STATES + " !l3 !a3>0", SockEmbassy::rejectionReason);
+        Expect.answers(SockEmbassy.COMMAND_REJECTED, Make.STATES + " !l3 iw0 !x", SockEmbassy::rejectionReason);
+        // Other exceptions, changes, undo and the snapshot leave it.
+        Expect.answers(SockEmbassy.PAIRED, Make.STATES + " !l3 !l6 !q5=0 !nr0 !R l5 S U R", SockEmbassy::rejectionReason);
+        Expect.answers(SockEmbassy.PAIRED, Make.STATES + " !l3 iy1 x iy0 !x iy !x", SockEmbassy::rejectionReason);
+        SockEmbassy office = Make.office(Make.STATES + " !l3");
+        Expect.is(false, office.canMove(0, 0));
+        Expect.is(SockEmbassy.PAIRED, office.rejectionReason());
+        Expect.sentence("Throws `NoSuchElementException` if no call was rejected");
+        never(SockEmbassy::rejectionReason);
+    }
+
+    private static void never(Consumer<SockEmbassy> call) {
+        for (String setup : NO_REJECTION) {
+            Expect.failsOnce(NoSuchElementException.class, setup, call);
         }
     }
 
-    private static void latestRejection() {
-        Expect.promise(57);
-        Expect.fails(NoSuchElementException.class, Make.STATES, SockEmbassy::rejectionReason);
+    private static void latestDetails() {
         Expect.promise(58);
-        Expect.fails(NoSuchElementException.class, Make.STATES, SockEmbassy::rejectionDetail);
-        SockEmbassy office = Make.office(Make.STATES);
-        rejected(office, x -> x.apply(3, 0), SockEmbassy.NOT_AWAY, 3);
-        rejected(office, x -> x.leave(3), SockEmbassy.PAIRED, 4);
-        rejected(office, x -> x.leave(1), SockEmbassy.NOT_RESIDENT, 1);
-        // Other exceptions, changes, undo and the snapshot leave it.
-        Expect.throwing(IndexOutOfBoundsException.class, office, x -> x.leave(6));
-        Expect.throwing(IllegalArgumentException.class, office, x -> x.pair(3, 3));
-        office.saveSnapshot();
-        office.leave(5);
-        office.undo();
-        office.restoreSnapshot();
-        Expect.is(false, office.canMove(5, 0));
-        Make.type(office, "e01");
-        Expect.throwing(IllegalStateException.class, office, SockEmbassy::execute);
-        Expect.promise(57);
-        Expect.is(SockEmbassy.NOT_RESIDENT, office.rejectionReason());
-        Expect.promise(58);
-        Expect.is(1, office.rejectionDetail());
-    }
-
-    private static void rejected(SockEmbassy office, java.util.function.Consumer<SockEmbassy> call,
-            int reason, int detail) {
-        Expect.throwing(UnsupportedOperationException.class, office, call);
-        Expect.promise(57);
-        Expect.is(reason, office.rejectionReason());
-        Expect.promise(58);
-        Expect.is(detail, office.rejectionDetail());
+        Expect.sentence("Returns the detail of the latest rejection.", "Returns the detail.");
+        Expect.answers(3, Make.STATES + " !a3>0", SockEmbassy::rejectionDetail);
+        Expect.answers(4, Make.STATES + " !a3>0 !l3", SockEmbassy::rejectionDetail);
+        Expect.answers(0, Make.STATES + " !l3 iw0 !x", SockEmbassy::rejectionDetail);
+        Expect.answers(1, Make.STATES + " !l3 iy1;w0 !x", SockEmbassy::rejectionDetail);
+        Expect.answers(4, Make.STATES + " !l3 !l6 !q5=0 !nr0 !R l5 S U R", SockEmbassy::rejectionDetail);
+        Expect.answers(4, Make.STATES + " !l3 iy1 x iy0 !x iy !x", SockEmbassy::rejectionDetail);
+        // Neither a check that finds a fault nor a failing command takes its place.
+        SockEmbassy office = Make.office(Make.STATES + " !l3");
+        Expect.is(false, office.canMove(0, 0));
+        Expect.is(4, office.rejectionDetail());
+        Expect.sentence("Throws `NoSuchElementException` if no call was rejected");
+        never(SockEmbassy::rejectionDetail);
     }
 
     private static void causes() {
         Expect.promise(59);
-        Expect.fails(NoSuchElementException.class, Make.STATES, SockEmbassy::causeReason);
-        SockEmbassy office = Make.office(Make.STATES);
-        Make.type(office, "y1;l3");
-        Expect.throwing(UnsupportedOperationException.class, office, SockEmbassy::execute);
-        Expect.is(SockEmbassy.PAIRED, office.causeReason());
-        rejected(office, x -> x.leave(1), SockEmbassy.NOT_RESIDENT, 1);
+        Expect.sentence("Returns the reason of the command that caused the latest rejection.",
+                "Returns the reason, one of the constants.");
+        String setup = Make.STATES + " t30o nr9 a6>3 q3=4 d3 q3=3";
+        caused(SockEmbassy.SOCK_LIMIT, 1, "nr1 ".repeat(13), "nr1;nr1;nr0");
+        caused(SockEmbassy.NOT_AWAY, 0, setup, "a1>0");
+        caused(SockEmbassy.NO_APPLICATION, 1, setup, "y1;w0");
+        caused(SockEmbassy.NOT_REFUSED, 2, setup, "y1;y1;p0");
+        caused(SockEmbassy.FINAL_LEVEL, 4, setup, "p2;d1;p2;d1;p2");
+        caused(SockEmbassy.NOT_RESIDENT, 0, setup, "r1+1");
+        caused(SockEmbassy.VISA_LIMIT, 1, setup, "r5+9;r5+2");
+        caused(SockEmbassy.PAIRED, 0, setup, "l3");
+        caused(SockEmbassy.NOT_PAIRED, 1, setup, "k3;k4");
+        caused(SockEmbassy.OTHER_DRAWER, 1, setup, "m5>0;j5&6");
+        caused(SockEmbassy.NO_MATCH, 1, setup, "k4;j4&5");
+        caused(SockEmbassy.NO_TREATY, 0, setup, "m5>1");
+        caused(SockEmbassy.CLAUSE, 3, setup, "e30;t03x;m5>0;m5>3");
+        caused(SockEmbassy.QUOTA, 1, setup, "m5>0;m5>3");
+        caused(SockEmbassy.BANNED, 1, setup, "b0r;m5>0");
+        caused(SockEmbassy.TREATY_EXISTS, 1, setup, "t12x;t21x");
+        caused(SockEmbassy.NOT_AWAY, 17, "", "y1;".repeat(15) + "nr1;a0>0;a0>0");
+        caused(SockEmbassy.NO_APPLICATION, 19, "nr1", "y1;".repeat(19) + "w0");
+        Expect.answers(SockEmbassy.NO_APPLICATION, Make.STATES + " il3 !x iw0 !x", SockEmbassy::causeReason);
+    }
+
+    private static void caused(int cause, int detail, String setup, String input) {
+        for (String notes : new String[] {"", Make.NOTES, " !t11o !d5"}) {
+            SockEmbassy office = Make.office(setup + notes);
+            Make.type(office, input);
+            Expect.throwing(UnsupportedOperationException.class, office, SockEmbassy::execute);
+            Expect.is(SockEmbassy.COMMAND_REJECTED, office.rejectionReason());
+            Expect.is(detail, office.rejectionDetail());
+            Expect.is(cause, office.causeReason());
+        }
+    }
+
+    private static void noCauses() {
         Expect.promise(59);
-        Expect.throwing(NoSuchElementException.class, office, SockEmbassy::causeReason);
+        Expect.sentence("Throws `NoSuchElementException` if no call was rejected, or the latest rejection has another");
+        never(SockEmbassy::causeReason);
+        Expect.failsOnce(NoSuchElementException.class, Make.STATES + " !l3", SockEmbassy::causeReason);
+        Expect.failsOnce(NoSuchElementException.class, Make.STATES + " iw0 !x !l3", SockEmbassy::causeReason);
+        Expect.answers(SockEmbassy.PAIRED, Make.STATES + " !l3 il3 !x iy0 !x", SockEmbassy::causeReason);
     }
 
-    /** Each change can be undone, also one that makes no difference, and leaves all as it was. */
-    private static void undoingEveryChange() {
-        Expect.promise(60);
-        String[] changes = {"nr1", "a0>4", "w1", "w2", "p2", "d2", "d0", "r5+9", "l5", "m5>0", "j5&6", "k3", "q4=0",
-            "q4=3", "b4r", "b4g", "u4g", "u4b", "t01o", "e30", "y1", "y20"};
-        String setup = Make.STATES + " nw9 a6>3 q3=4 d3 t30s b4g";
-        for (String change : changes) {
-            SockEmbassy office = Make.office(setup);
-            String before = Picture.data(office);
-            Make.run(office, change);
-            Expect.is(7, office.undo());
-            Expect.is(before, Picture.data(office));
-            Expect.is(6, office.undo());
-            office = Make.office(setup);
-            Make.execute(office, change + ";y1");
-            Expect.is(7, office.undo());
-            Expect.is(before, Picture.data(office));
-        }
-    }
-
+    /** Each change can be undone and leaves all as it was, made by its call or by a command. */
     private static void undoing() {
-        Expect.fails(IllegalStateException.class, "", SockEmbassy::undo);
-        SockEmbassy office = new SockEmbassy();
-        for (int change = 1; change <= 10; change++) {
-            office.passDays(change);
+        Expect.promise(60);
+        Expect.sentence("Undoes the latest change that has not been undone.");
+        String[] changes = {"nr1", "a0>4", "w1", "w2", "p2", "d2", "d0", "r5+9", "l5", "m5>0", "j5&6", "k3", "q4=0",
+            "q4=3", "b4r", "b4g", "u4g", "u4b", "t01o", "e30", "y1", "y20", "iy1;l5;nr1 x"};
+        String before = Picture.data(Make.office(SETUP));
+        for (String change : changes) {
+            SockEmbassy office = Make.office(SETUP + " " + change);
+            Expect.is(7, office.undo());
+            Expect.is(before, Picture.data(office));
         }
-        // 8 of 10 changes are kept; a new one takes the place behind those that are left.
-        Expect.is(7, office.undo());
-        Expect.is(45, office.day());
-        Expect.is(6, office.undo());
-        Expect.is(36, office.day());
-        office.setQuota(0, 7);
-        office.passDays(20);
+        // The day on which an application was made comes back too: it orders the queue.
+        Expect.answers(0, "nr1 nr1 a1>0 y1 a0>0 y1 w1 a1>0", x -> x.queueAt(0, 0));
+        Expect.answers(1, "nr1 nr1 a1>0 y1 a0>0 y1 w1 a1>0 U U", x -> x.queueAt(0, 0));
+    }
+
+    private static void undoingTheLatest() {
+        Expect.promise(60);
+        Expect.sentence("Undoes the latest change that has not been undone.");
+        Expect.answers(3, "y1 y2 y4 U", SockEmbassy::day);
+        Expect.answers(1, "y1 y2 y4 U U", SockEmbassy::day);
+        Expect.answers(0, "y1 y2 y4 U U U", SockEmbassy::day);
+        Expect.answers(9, "y1 y2 y4 U U y8", SockEmbassy::day);
+        Expect.answers(1, "y1 y2 y4 U U y8 U", SockEmbassy::day);
+        Expect.answers(0, "y1 y2 y4 U U y8 U U", SockEmbassy::day);
+        // A call that throws is no change.
+        Expect.answers(1, "y1 y2 !y0 !d5 !w0 iw !x iy0 !x U", SockEmbassy::day);
+    }
+
+    private static void changesLeft() {
+        Expect.promise(60);
+        Expect.sentence("Returns the number of changes that can still be undone.");
+        for (int changes = 1; changes <= 10; changes++) {
+            Expect.answers(Math.min(changes, 8) - 1, "y1 ".repeat(changes), SockEmbassy::undo);
+        }
+        SockEmbassy office = Make.office("y1 y1 y1 y1 y1 y1 y1 y1 y1 y1");
         for (int left = 7; left >= 0; left--) {
             Expect.is(left, office.undo());
         }
-        Expect.is(3, office.day());
-        Expect.is(3, office.quotaOf(0));
-        Expect.throwing(IllegalStateException.class, office, SockEmbassy::undo);
-        Expect.is(3, office.day());
-        for (int changes = 1; changes <= 9; changes++) {
-            SockEmbassy few = Make.office("y1 ".repeat(changes));
-            Expect.is(Math.min(changes, 8) - 1, few.undo());
-        }
+        // Changes that have been undone are gone: after 10 changes and 2 undos, 6 are left, and a new one makes 7.
+        Expect.answers(6, "y1 y1 y1 y1 y1 y1 y1 y1 y1 y1 U U q0=7", SockEmbassy::undo);
+        Expect.answers(7, "y1 y1 y1 y1 y1 y1 y1 y1 y1 y1 U U q0=7 y1", SockEmbassy::undo);
+        Expect.answers(7, "y1 y1 y1 y1 y1 y1 y1 y1 y1 y1 U U q0=7 y1 y1", SockEmbassy::undo);
+        Expect.answers(0, "nr1 iy1;y1 x U", SockEmbassy::undo);
     }
 
-    /** The days on which applications were made come back too: they order the queue. */
-    private static void daysOfApplications() {
-        String setup = "nr1 nr1 a1>0 y1 a0>0";
-        SockEmbassy office = Make.office(setup + " y1 w1 a1>0");
-        Expect.is(0, office.queueAt(0, 0));
-        office.undo();
-        Expect.is(6, office.undo());
-        Expect.is(1, office.queueAt(0, 0));
-        Expect.promise(62);
-        SockEmbassy saved = Make.office(setup);
-        saved.saveSnapshot();
-        Make.run(saved, "y1 w1 a1>0");
-        saved.restoreSnapshot();
-        Expect.is(1, saved.queueAt(0, 0));
+    private static void nothingToUndo() {
         Expect.promise(60);
+        Expect.sentence("Throws `IllegalStateException` if there is none");
+        Expect.fails(IllegalStateException.class, "", SockEmbassy::undo);
+        Expect.fails(IllegalStateException.class, "!y0 iy !x", SockEmbassy::undo);
+        Expect.fails(IllegalStateException.class, "y1 U", SockEmbassy::undo);
+        Expect.fails(IllegalStateException.class, "y1 y1 y1 y1 y1 y1 y1 y1 y1 U U U U U U U U", SockEmbassy::undo);
+        Expect.answers(1, "y1 y1 y1 y1 y1 y1 y1 y1 y1 U U U U U U U U !U", SockEmbassy::day);
+        Expect.failsOnce(IllegalStateException.class, Make.STATES + " S R", SockEmbassy::undo);
     }
 
-    private static void noChanges() {
-        SockEmbassy office = Make.office(Make.STATES + " y1 y1");
-        office.writeSock(3);
-        office.wouldExpel(20);
-        office.wouldAdmit(2);
-        office.canMove(5, 0);
-        office.appendInput('y');
-        office.saveSnapshot();
-        Expect.throwing(UnsupportedOperationException.class, office, x -> x.leave(3));
-        Expect.throwing(IndexOutOfBoundsException.class, office, x -> x.leave(7));
-        Expect.throwing(IllegalArgumentException.class, office, SockEmbassy::execute);
-        Expect.is(7, office.undo());
-        Expect.is(1, office.day());
-    }
-
-    private static void whatUndoLeaves() {
-        SockEmbassy office = Make.office(Make.STATES);
-        office.writeSock(5);
-        office.appendInput('y');
-        office.leave(5);
-        office.saveSnapshot();
-        office.writeSock(5);
-        office.appendInput('1');
-        office.undo();
-        Expect.is(true, office.isResident(5));
-        Expect.is('-', office.outputAt(4));
-        Expect.is(1, office.execute());
-        Expect.is(1, office.day());
-        // The snapshot is that of before the undo.
-        office.restoreSnapshot();
-        Expect.is(true, office.isAway(5));
-    }
-
-    private static void snapshots() {
+    private static void saving() {
         Expect.promise(61);
-        SockEmbassy office = Make.office(Make.STATES + " b2g t12x");
-        Expect.is(6, office.saveSnapshot());
-        String saved = Picture.data(office);
-        Make.run(office, "nr1 y20 q1=4 t30o u2g e12 k3 w1 a1>4");
-        Expect.promise(62);
-        Expect.is(6, office.restoreSnapshot());
-        Expect.is(saved, Picture.data(office));
-        Expect.throwing(IllegalStateException.class, office, SockEmbassy::undo);
-        Make.run(office, "nw2 nw3 l5");
-        Expect.is(6, office.restoreSnapshot());
-        Expect.promise(61);
-        Make.run(office, "nw7 nw8 y4");
-        Expect.is(8, office.saveSnapshot());
-        Expect.is(2, office.undo());
-        Expect.is(8, office.restoreSnapshot());
-        Expect.is(4, office.day());
-        Expect.is('w', office.colourOf(7));
-        Expect.is(0, new SockEmbassy().saveSnapshot());
-        Expect.promise(62);
-        Expect.fails(IllegalStateException.class, Make.STATES, SockEmbassy::restoreSnapshot);
-        Expect.fails(IllegalStateException.class, "", SockEmbassy::restoreSnapshot);
+        Expect.sentence("Saves a snapshot of the data, in place of an earlier snapshot.");
+        String setup = Make.STATES + " b2g t12x";
+        String changes = " nr1 y20 q1=4 t30o u2g e12 k3 w1 a1>4";
+        Expect.is(Picture.data(Make.office(setup)), Picture.data(Make.office(setup + " S" + changes + " R")));
+        Expect.is(Picture.data(Make.office(setup + changes)),
+                Picture.data(Make.office(setup + " S" + changes + " S y3 R")));
+        // A snapshot has the colours and sizes of its socks, also if others have had their indices since.
+        Expect.answers('r', "nr1 S U ng2 R", x -> x.colourOf(0));
+        Expect.answers(1, "nr1 S U ng2 R", x -> x.sizeOf(0));
+        Expect.answers(1, "nr1 nr1 a1>0 y1 a0>0 S y1 w1 a1>0 R", x -> x.queueAt(0, 0));
+        // It is no change.
+        Expect.answers(1, "y1 y1 S", SockEmbassy::undo);
+        Expect.sentence("Returns the number of socks.");
+        Expect.answers(0, "", SockEmbassy::saveSnapshot);
+        Expect.answers(6, Make.STATES, SockEmbassy::saveSnapshot);
+        Expect.answers(14, Expect.FOURTEEN, SockEmbassy::saveSnapshot);
+        Expect.answers(2, "nr1 S nr1", SockEmbassy::saveSnapshot);
     }
 
-    /** A snapshot has the colours and sizes of its socks, also if others have had their indices since. */
-    private static void snapshotsOfSocks() {
-        SockEmbassy office = Make.office("nr1");
-        office.saveSnapshot();
-        office.undo();
-        office.addSock('g', 2);
-        office.restoreSnapshot();
-        Expect.is('r', office.colourOf(0));
-        Expect.is(1, office.sizeOf(0));
+    private static void restoring() {
+        Expect.promise(62);
+        Expect.sentence("Restores the snapshot, which is kept.");
+        String saved = Picture.data(Make.office(Make.STATES));
+        Expect.is(saved, Picture.data(Make.office(Make.STATES + " S l5 y20 R")));
+        Expect.is(saved, Picture.data(Make.office(Make.STATES + " S l5 y20 R R")));
+        Expect.is(saved, Picture.data(Make.office(Make.STATES + " S R l5 nr1 R y3 w1 R")));
+        // What is undone behind it, or ahead of it, is nothing to the snapshot.
+        Expect.answers(3, "y1 y2 S U R", SockEmbassy::day);
+        Expect.answers(1, "y1 y2 U S y4 R", SockEmbassy::day);
+        Expect.sentence("Returns the number of socks.");
+        Expect.answers(0, "S nr1", SockEmbassy::restoreSnapshot);
+        Expect.answers(6, Make.STATES + " S nr1", SockEmbassy::restoreSnapshot);
+        Expect.answers(14, Expect.FOURTEEN + "S U U", SockEmbassy::restoreSnapshot);
+        Expect.answers(1, "nr1 S nr1 R nr1 nr1", SockEmbassy::restoreSnapshot);
     }
 
-    private static void whatTheSnapshotLeaves() {
+    private static void noUndoAfterwards() {
         Expect.promise(62);
-        SockEmbassy office = Make.office(Make.STATES);
-        office.saveSnapshot();
-        office.leave(5);
-        office.writeSock(5);
-        Make.type(office, "y");
-        office.restoreSnapshot();
-        Expect.is('-', office.outputAt(4));
-        Expect.is(2, office.appendInput('4'));
-        Expect.is(1, office.execute());
-        Expect.is(4, office.day());
-        Expect.is(0, office.undo());
-        Expect.is(0, office.day());
+        Expect.sentence("No change can be undone after the call.");
+        Expect.failsOnce(IllegalStateException.class, "y1 S R", SockEmbassy::undo);
+        Expect.failsOnce(IllegalStateException.class, "y1 S y1 R", SockEmbassy::undo);
+        Expect.answers(0, "y1 S y1 R y1", SockEmbassy::undo);
+        Expect.answers(1, "y1 S y4 y4 R y8 U", SockEmbassy::day);
+    }
+
+    private static void noSnapshot() {
+        Expect.promise(62);
+        Expect.sentence("Throws `IllegalStateException` if there is no snapshot");
+        Expect.failsOnce(IllegalStateException.class, "", SockEmbassy::restoreSnapshot);
+        Expect.failsOnce(IllegalStateException.class, Make.STATES, SockEmbassy::restoreSnapshot);
+        Expect.failsOnce(IllegalStateException.class, "nr1 U iy3", SockEmbassy::restoreSnapshot);
     }
 }

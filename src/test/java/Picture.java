@@ -1,8 +1,13 @@
+import java.util.HashMap;
+import java.util.List;
+import java.util.Map;
 import java.util.function.IntFunction;
 import java.util.function.Supplier;
 
 /** Texts that show what the calls of an office tell. */
 final class Picture {
+    private static final Map<String, List<String>> KNOWN = new HashMap<>();
+
     private Picture() {
     }
 
@@ -12,20 +17,45 @@ final class Picture {
         add(text, "reason", office::rejectionReason);
         add(text, "detail", office::rejectionDetail);
         add(text, "cause", office::causeReason);
-        add(text, "syntax", office::syntaxErrorOffset);
-        return text.toString();
+        return text + syntaxError(office);
     }
 
-    /** All but the notes. The office is of no use afterwards: the changes are undone to count them. */
-    static String all(SockEmbassy office) {
-        StringBuilder text = new StringBuilder(data(office));
-        text.append("output ").append(output(office)).append('\n');
-        add(text, "input", () -> office.appendInput(' '));
-        for (int i = 0; i < 9; i++) {
+    static String syntaxError(SockEmbassy office) {
+        return "syntax " + Expect.answer(office::syntaxErrorOffset) + "\n";
+    }
+
+    /** All but the notes; each view is taken of an office of its own, because it uses it up. */
+    static List<String> views(Supplier<SockEmbassy> maker) {
+        return List.of(dataAndOutput(maker.get()), lengthOfInput(maker.get()), carriedOut(maker.get()),
+                undone(maker.get(), 1), undone(maker.get(), 9), restored(maker.get()));
+    }
+
+    static List<String> views(String setup) {
+        return KNOWN.computeIfAbsent(setup, words -> views(() -> Make.office(words)));
+    }
+
+    private static String dataAndOutput(SockEmbassy office) {
+        return data(office) + "output " + output(office);
+    }
+
+    private static String lengthOfInput(SockEmbassy office) {
+        return "input " + Expect.answer(() -> office.appendInput(' '));
+    }
+
+    private static String carriedOut(SockEmbassy office) {
+        return "execute " + Expect.answer(office::execute) + "\n" + syntaxError(office) + data(office);
+    }
+
+    private static String undone(SockEmbassy office, int times) {
+        StringBuilder text = new StringBuilder();
+        for (int i = 0; i < times; i++) {
             add(text, "undo", office::undo);
         }
-        add(text, "first", office::sockCount);
-        return text.toString();
+        return text + data(office);
+    }
+
+    private static String restored(SockEmbassy office) {
+        return "restore " + Expect.answer(office::restoreSnapshot) + "\n" + data(office);
     }
 
     /** What undo and the snapshot cover. */

@@ -10,20 +10,37 @@ public final class Tests {
     public static void main(String[] arguments) throws IOException, IllegalAccessException {
         String source = Files.readString(Path.of(arguments[0]));
         String document = Files.readString(Path.of(arguments[1]));
+        Document.read(document);
         SockTests.run();
         ApplicationTests.run();
+        ResidentTests.run();
         PairTests.run();
         DrawerTests.run();
+        TreatyTests.run();
         DayTests.run();
-        OutputTests.run();
+        TotalTests.run();
         CommandTests.run();
         HistoryTests.run();
-        FaceTests.run(document);
+        TermTests.run();
+        FormTests.run();
+        ReasonTests.run();
+        RefusalTests.run();
+        FaceTests.run(document, source);
         LanguageTests.run(source);
         RandomRuns.run();
+        everySentence();
         System.out.println("expectations: " + Expect.passed + " passed, " + Expect.failed + " failed");
         if (Expect.failed > 0 || Expect.passed == 0) {
             System.exit(1);
+        }
+    }
+
+    /** Every sentence of the document that tells something has been tested. */
+    private static void everySentence() {
+        Expect.promise(0);
+        Expect.holds(Document.size() > 300, "the sentences of the document are not found");
+        for (String sentence : Document.untested()) {
+            Expect.holds(false, "no test: " + sentence);
         }
     }
 }
