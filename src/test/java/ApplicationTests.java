@@ -83,7 +83,7 @@ final class ApplicationTests {
             Expect.answers(drawer, apply + " d" + drawer, x -> x.withdraw(0));
         }
         Expect.socks((x, sock) -> x.withdraw(sock));
-        Expect.sentence("Throws `UnsupportedOperationException` if the call is rejected with the reason NO_APPLICATION");
+        Expect.sentence("Throws `UnsupportedOperationException` if the call is rejected with the reason");
         for (int sock : new int[] {0, 3, 5}) {
             Expect.rejects(SockEmbassy.NO_APPLICATION, sock, Make.STATES, x -> x.withdraw(sock));
         }
@@ -114,7 +114,7 @@ final class ApplicationTests {
 
     private static void refusedAppeals() {
         Expect.promise(17);
-        Expect.sentence("Throws `UnsupportedOperationException` if the call is rejected with the reason NOT_REFUSED or");
+        Expect.sentence("Throws `UnsupportedOperationException` if the call is rejected with the reason NOT_REFUSED");
         for (int sock : new int[] {0, 1, 3, 5}) {
             Expect.rejects(SockEmbassy.NOT_REFUSED, sock, Make.STATES, x -> x.appeal(sock));
         }
@@ -175,7 +175,7 @@ final class ApplicationTests {
 
     private static void forecast() {
         Expect.promise(19);
-        Expect.sentence("Returns how many socks would become residents if the applications to a drawer were decided now.",
+        Expect.sentence("Returns how many socks would become residents if the applications to a drawer were decided",
                 "Returns the number of socks.");
         Expect.answers(0, "", x -> x.wouldAdmit(0));
         Expect.answers(3, FIVE, x -> x.wouldAdmit(2));

@@ -94,7 +94,8 @@ final class CommandTests {
     private static void emptied() {
         Expect.promise(55);
         Expect.sentence("The input is empty after the call, also if an exception is thrown.");
-        for (String input : new String[] {"y1", "", "y", "y1;", "y0", "y1;e01", "w0", "y1;w0", "z".repeat(60), TWENTY}) {
+        String[] inputs = {"y1", "", "y", "y1;", "y0", "y1;e01", "w0", "y1;w0", "z".repeat(60), TWENTY};
+        for (String input : inputs) {
             Expect.is(1, executed(Make.STATES, input).appendInput('y'));
             SockEmbassy office = executed(Make.STATES, input);
             int day = office.day();
@@ -153,7 +154,7 @@ final class CommandTests {
 
     private static void rejections() {
         Expect.promise(55);
-        Expect.sentence("Throws `UnsupportedOperationException` if the call is rejected with the reason COMMAND_REJECTED");
+        Expect.sentence("Throws `UnsupportedOperationException` if the call is rejected with the reason");
         String[] inputs = {"w0", "y1;w0", "y1;w0;e01", "w0;nr0", "y1;y1;y1;y1;y1;y1;y1;y1;y1;y1;y1;l0"};
         for (String input : inputs) {
             for (String setup : new String[] {Make.STATES, Make.STATES + Make.NOTES}) {

@@ -2,7 +2,8 @@ import java.util.NoSuchElementException;
 
 /** Promises 30 to 32 and 36 to 40: drawers. */
 final class DrawerTests {
-    private static final String LETTERS = "- `colour`: the colour: 'r' for red, 'g' for green, 'b' for blue, 'w' for white";
+    private static final String LETTERS =
+            "- `colour`: the colour: 'r' for red, 'g' for green, 'b' for blue, 'w' for white";
     private static final char[] NO_COLOURS = "\0 acefhqsvxRGBWo-\u0172\uffff".toCharArray();
 
     // As many residents of one drawer as there can be: no quota is greater than 9.

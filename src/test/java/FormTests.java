@@ -133,7 +133,7 @@ final class FormTests {
     }
 
     private static void offsets() {
-        Expect.term("The offset of a syntax error is the index of the first character that cannot follow the characters");
+        Expect.term("The offset of a syntax error is the index of the first character that cannot follow the");
         syntax(" nr1", 0);
         syntax("N", 0);
         syntax("nr1 ", 3);

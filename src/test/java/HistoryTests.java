@@ -34,7 +34,8 @@ final class HistoryTests {
         Expect.answers(SockEmbassy.NOT_AWAY, Make.STATES + " !l3 !a3>0", SockEmbassy::rejectionReason);
         Expect.answers(SockEmbassy.COMMAND_REJECTED, Make.STATES + " !l3 iw0 !x", SockEmbassy::rejectionReason);
         // Other exceptions, changes, undo and the snapshot leave it.
-        Expect.answers(SockEmbassy.PAIRED, Make.STATES + " !l3 !l6 !q5=0 !nr0 !R l5 S U R", SockEmbassy::rejectionReason);
+        String others = " !l6 !q5=0 !nr0 !R l5 S U R";
+        Expect.answers(SockEmbassy.PAIRED, Make.STATES + " !l3" + others, SockEmbassy::rejectionReason);
         Expect.answers(SockEmbassy.PAIRED, Make.STATES + " !l3 iy1 x iy0 !x iy !x", SockEmbassy::rejectionReason);
         SockEmbassy office = Make.office(Make.STATES + " !l3");
         Expect.is(false, office.canMove(0, 0));

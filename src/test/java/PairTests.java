@@ -48,7 +48,7 @@ final class PairTests {
 
     private static void rejectedPairs() {
         Expect.promise(25);
-        Expect.sentence("Throws `UnsupportedOperationException` if the call is rejected with the reason NOT_RESIDENT, for");
+        Expect.sentence("Throws `UnsupportedOperationException` if the call is rejected with the reason");
         for (int sock : new int[] {0, 1, 2}) {
             Expect.rejects(SockEmbassy.NOT_RESIDENT, sock, Make.STATES, x -> x.pair(sock, 5));
             Expect.rejects(SockEmbassy.NOT_RESIDENT, sock, Make.STATES, x -> x.pair(3, sock));

@@ -39,7 +39,7 @@ final class RefusalTests {
     }
 
     private static void firstReasons() {
-        Expect.term("A call is rejected for the first reason that applies, in the order in which its method names them.");
+        Expect.term("A call is rejected for the first reason that applies, in the order in which its method names");
         // A sock that has left has a visa no more, nor has one with an application of the last level.
         Expect.rejects(SockEmbassy.NOT_RESIDENT, 5, Make.STATES + " r5+9 r5+1 l5", x -> x.renew(5, 9));
         Expect.rejects(SockEmbassy.NOT_REFUSED, 2, Make.STATES + " p2 d1 p2", x -> x.appeal(2));
@@ -95,7 +95,7 @@ final class RefusalTests {
     }
 
     private static void changes() {
-        Expect.term("A change is a call of addSock, apply, withdraw, appeal, decide, renew, leave, move, pair, separate");
+        Expect.term("A change is a call of addSock, apply, withdraw, appeal, decide, renew, leave, move, pair,");
         String[] words = {"nr1", "a0>1", "w1", "p2", "d2", "r5+1", "l5", "m5>0", "j5&6", "k3", "q1=2", "b1r", "u4g",
             "t12x", "e03", "y1", "iy1 x"};
         Expect.is(CHANGES.size(), words.length);
@@ -112,7 +112,7 @@ final class RefusalTests {
     }
 
     private static void noChanges() {
-        Expect.term("A change is a call of addSock, apply, withdraw, appeal, decide, renew, leave, move, pair, separate");
+        Expect.term("A change is a call of addSock, apply, withdraw, appeal, decide, renew, leave, move, pair,");
         // Calls that throw, and calls that are not named.
         for (String word : new String[] {"!nr0", "!a6>0", "!w0", "!p5", "!d5", "!r0+1", "!l3", "!m3>0", "!j3&5", "!k5",
             "!q1=10", "!b5r", "!u1y", "!t30o", "!e12", "!y21", "!x", "iy0 !x", "il3 !x", "iy", "o5", "S"}) {
@@ -242,7 +242,7 @@ final class RefusalTests {
     }
 
     private static void manyCalls() {
-        Expect.whatItIs("An object is used for at most 512 calls after it has been made; what later calls answer is free.");
+        Expect.whatItIs("An object is used for at most 512 calls after it has been made; what later calls answer is");
         SockEmbassy days = new SockEmbassy();
         for (int call = 1; call <= 511; call++) {
             days.passDays(20);

@@ -137,7 +137,7 @@ final class SockTests {
 
     private static void pending() {
         Expect.promise(7);
-        Expect.sentence("Tells whether a sock is pending.", "Returns whether it has an application that is not decided.");
+        Expect.sentence("Tells whether a sock is pending.", "Returns whether it has an application that is not");
         states("ftffff", SockEmbassy::isPending);
         Expect.answers(true, Make.STATES + " a0>0", x -> x.isPending(0));
         Expect.answers(false, Make.STATES + " d2", x -> x.isPending(1));

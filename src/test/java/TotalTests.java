@@ -52,7 +52,7 @@ final class TotalTests {
 
     private static void means() {
         Expect.promise(49);
-        Expect.sentence("Returns the mean size of all socks: the sum divided by their number, both converted to double.",
+        Expect.sentence("Returns the mean size of all socks: the sum divided by their number, both converted to",
                 "Returns the mean size.");
         Expect.answers(4.0, "nr4", SockEmbassy::meanSize);
         Expect.answers(1.0, Expect.FOURTEEN, SockEmbassy::meanSize);
@@ -133,7 +133,7 @@ final class TotalTests {
 
     private static void textsInPlace() {
         Expect.promise(52);
-        Expect.sentence("Writes a sock to the output, in place of the earlier output: its index, \":\", its colour and");
+        Expect.sentence("Writes a sock to the output, in place of the earlier output: its index, \":\", its colour");
         // A shorter text replaces a longer one whole, and a longer one a shorter one.
         SockEmbassy office = Make.office(Make.STATES + " o3");
         writes("0:r1-", office, 0);

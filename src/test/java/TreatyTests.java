@@ -43,7 +43,7 @@ final class TreatyTests {
         Expect.everyDrawer((x, drawer) -> x.signTreaty(drawer, 1, 'o'));
         Expect.everyDrawer((x, drawer) -> x.signTreaty(1, drawer, 'o'));
         Expect.outside("", (x, drawer) -> x.signTreaty(drawer, drawer, 'q'), -1, 5);
-        Expect.sentence("Throws `IllegalArgumentException` if both arguments are the same drawer, or there is no such clause");
+        Expect.sentence("Throws `IllegalArgumentException` if both arguments are the same drawer, or there is no");
         for (char clause : "\0 OSXnprtwyrgb-\u016f\uffff".toCharArray()) {
             Expect.fails(IllegalArgumentException.class, "t12o", x -> x.signTreaty(0, 1, clause));
             Expect.fails(IllegalArgumentException.class, "t12o", x -> x.signTreaty(1, 2, clause));
