@@ -30,6 +30,7 @@ final class FaceTests {
             Expect.holds(Modifier.isPrivate(inside.getModifiers()), inside + " is not private");
         }
         names();
+        sizes(SockEmbassy.class);
         headings(source);
     }
 
@@ -93,6 +94,23 @@ final class FaceTests {
 
     private static String thrown(Class<?>[] types) {
         return types.length > 0 ? " throws " + types(types) : "";
+    }
+
+    /** What LANGUAGE.md says of static fields, and of the number of fields and parameters. */
+    private static void sizes(Class<?> type) {
+        int fields = 0;
+        for (Field field : type.getDeclaredFields()) {
+            boolean isStatic = Modifier.isStatic(field.getModifiers());
+            fields += isStatic ? 0 : 1;
+            Expect.holds(!isStatic || Modifier.isFinal(field.getModifiers()), field + " is not final");
+        }
+        Expect.holds(fields <= 20, type + " has too many fields");
+        for (Method method : type.getDeclaredMethods()) {
+            Expect.holds(method.getParameterCount() <= 7, method + " has too many parameters");
+        }
+        for (Class<?> inside : type.getDeclaredClasses()) {
+            sizes(inside);
+        }
     }
 
     /** No private method, nor one of a class inside, bears the name of a public one. */

@@ -27,6 +27,7 @@ public final class Tests {
         RefusalTests.run();
         FaceTests.run(document, source);
         LanguageTests.run(source);
+        RoomTests.run();
         RandomRuns.run();
         everySentence();
         System.out.println("expectations: " + Expect.passed + " passed, " + Expect.failed + " failed");
