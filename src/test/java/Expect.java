@@ -193,7 +193,7 @@ final class Expect {
 
     private static String place() {
         for (StackTraceElement step : new Throwable().getStackTrace()) {
-            if (!step.getClassName().startsWith("Expect")) {
+            if (!step.getClassName().matches("(Expect|Picture|java).*")) {
                 return step.getFileName() + ":" + step.getLineNumber();
             }
         }
