@@ -113,14 +113,20 @@ final class FaceTests {
         }
     }
 
-    /** No private method, nor one of a class inside, bears the name of a public one. */
-    private static void names() {
-        Set<String> shown = new TreeSet<>();
+    /** The names of the class's calls. */
+    static Set<String> calls() {
+        Set<String> found = new TreeSet<>();
         for (Method method : SockEmbassy.class.getMethods()) {
             if (method.getDeclaringClass() == SockEmbassy.class) {
-                shown.add(method.getName());
+                found.add(method.getName());
             }
         }
+        return found;
+    }
+
+    /** No private method, nor one of a class inside, bears the name of a public one. */
+    private static void names() {
+        Set<String> shown = calls();
         checkNames(SockEmbassy.class, shown, true);
         for (Class<?> inside : SockEmbassy.class.getDeclaredClasses()) {
             checkNames(inside, shown, false);

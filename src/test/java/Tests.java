@@ -2,12 +2,12 @@ import java.io.IOException;
 import java.nio.file.Files;
 import java.nio.file.Path;
 
-/** Runs every test of the project: java Tests SOURCE DOCUMENT. */
+/** Runs every test of the project: java Tests SOURCE DOCUMENT README. */
 public final class Tests {
     private Tests() {
     }
 
-    public static void main(String[] arguments) throws IOException, IllegalAccessException {
+    public static void main(String[] arguments) throws IOException, ReflectiveOperationException {
         String source = Files.readString(Path.of(arguments[0]));
         String document = Files.readString(Path.of(arguments[1]));
         Document.read(document);
@@ -28,6 +28,7 @@ public final class Tests {
         FaceTests.run(document, source);
         LanguageTests.run(source);
         RoomTests.run();
+        ReadmeTests.run(Path.of(arguments[2]));
         RandomRuns.run();
         everySentence();
         System.out.println("expectations: " + Expect.passed + " passed, " + Expect.failed + " failed");
